@@ -65,6 +65,13 @@ public final class LandsTest {
         fault("g12 b11 b11 b11 b", 16);
         fault("g12 b11 b11 b11 x", 16);
         fault("g1234567890 b99", Due.NONE);
+        // '/' and ':' stand just beside the figures.
+        fault("g/2", 1);
+        fault("g1:", 2);
+        fault("g12 b/1", 5);
+        fault("g1234567890 b:1", 13);
+        fault("g12 b1/", 6);
+        fault("g12 b1:", 6);
         MovingHills x = new MovingHills();
         due.is("fault(4)", x.fault(4), Due.BAD);
         due.is("fault(-1)", x.fault(-1), Due.BAD);

@@ -69,6 +69,18 @@ public final class PlansTest {
         due.is("raise(0, 0, 1, -1)", x.raise(0, 0, 1, -1), Due.BAD);
         due.row("refused", x, 3, 0, 0);
         due.is("raise() is aside", x.count(2), 0);
+        MovingHills own = Due.of("g303 b11");
+        due.is("from both sides at once", own.raise(1, 2, 1, 0), 1);
+        due.is("from both sides, twice", own.raise(1, 4, 2, 0), 2);
+        due.is("one more than can come", own.raise(1, 5, 2, 0), Due.NONE);
+        due.is("all that there is", own.raise(1, 6, 3, 0), 3);
+        MovingHills right = Due.of("g40 t11");
+        due.is("2 inches from the left", right.raise(1, 2, 1, 0), 1);
+        MovingHills left = Due.of("g04 t01");
+        due.is("2 inches from the right", left.raise(0, 2, 1, 0), 1);
+        MovingHills many = Due.of("g0902 b01 d02 t01");
+        due.is("5 inches by three BANDS", many.raise(0, 5, 1, 0), 4);
+        due.row("5 inches by three BANDS", many, 0, 1 + 3 + 9);
         due.is("raise() without SPOTS", new MovingHills().raise(0, 0, 0, 0), Due.BAD);
     }
 
