@@ -221,17 +221,11 @@ public final class MovingHills {
     }
 
     public int highest(int x) {
-        if (!here.isSpot(x)) return BAD;
-        int program = aside.mostExtreme(x, 1);
-        aside.repeat(program, 1);
-        return tell(program, aside.ground[x]);
+        return here.isSpot(x) ? extreme(x, 1) : BAD;
     }
 
     public int lowest(int x) {
-        if (!here.isSpot(x)) return BAD;
-        int program = aside.mostExtreme(x, -1);
-        aside.repeat(program, 1);
-        return tell(program, aside.ground[x]);
+        return here.isSpot(x) ? extreme(x, -1) : BAD;
     }
 
     // ---- 4 what to play
@@ -273,9 +267,7 @@ public final class MovingHills {
     // ---- 5 by what has moved
 
     public int played(int r) {
-        if (!rows.names(r)) return BAD;
-        if (here.spots == 0) return STATE;
-        int refusal = fitRefusal(r);
+        int refusal = groundRefusal(r);
         if (refusal != 0) return refusal;
         int fits = 0;
         int first = NONE;
@@ -303,9 +295,7 @@ public final class MovingHills {
     }
 
     public int twice(int r) {
-        if (!rows.names(r)) return BAD;
-        if (here.spots == 0) return STATE;
-        int refusal = fitRefusal(r);
+        int refusal = groundRefusal(r);
         if (refusal != 0) return refusal;
         int fits = 0;
         int first = NONE;
@@ -364,9 +354,7 @@ public final class MovingHills {
     }
 
     public int far(int r) {
-        if (!rows.names(r)) return BAD;
-        if (here.spots == 0) return STATE;
-        int refusal = fitRefusal(r);
+        int refusal = groundRefusal(r);
         if (refusal != 0) return refusal;
         for (int x = 0; x < here.spots; x++) {
             if (rows.get(r, x) < 0) return find(UNLIKE);
@@ -478,6 +466,12 @@ public final class MovingHills {
         return shelf.reaches(r, i) ? 0 : find(BEYOND);
     }
 
+    /** Why row r can't be asked about as ground: a refusal, or 0. */
+    private int groundRefusal(int r) {
+        if (!rows.names(r)) return BAD;
+        return here.spots == 0 ? STATE : fitRefusal(r);
+    }
+
     /** Why row r can't tell the HEIGHTS of all SPOTS: a refusal, or 0. */
     private int fitRefusal(int r) {
         if (!rows.holds(r)) return find(NOTHING);
@@ -493,6 +487,20 @@ public final class MovingHills {
 
     private boolean isStretch(int x, int y) {
         return here.isSpot(x) && here.isSpot(y) && x < y;
+    }
+
+    /** The first PROGRAM that makes a SPOT highest (way 1) or lowest (way -1). */
+    private int extreme(int x, int way) {
+        int best = 0;
+        int bestHigh = here.height[x];
+        int programs = here.programs();
+        for (int p = 1; p < programs; p++) {
+            aside.repeat(p, 1);
+            if (way * aside.ground[x] <= way * bestHigh) continue;
+            best = p;
+            bestHigh = aside.ground[x];
+        }
+        return tell(best, bestHigh);
     }
 
     private void layPlan(int r, int n) {
@@ -984,21 +992,6 @@ public final class MovingHills {
                 if (one[x] != other[x]) return false;
             }
             return true;
-        }
-
-        /** The first PROGRAM that makes a SPOT highest (way 1) or lowest (way -1). */
-        int mostExtreme(int x, int way) {
-            int best = 0;
-            int bestHigh = 0;
-            int programs = land.programs();
-            for (int p = 0; p < programs; p++) {
-                repeat(p, 1);
-                if (p == 0 || way * ground[x] > way * bestHigh) {
-                    best = p;
-                    bestHigh = ground[x];
-                }
-            }
-            return best;
         }
 
         /** Silence keeps every SPOT, so there always is one. */
