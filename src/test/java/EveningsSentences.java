@@ -258,6 +258,27 @@ final class EveningsSentences {
         full.undo(0);
         due.is("60 EVENINGS again", full.on(2), 60);
         due.is("asked() is not told", full.asked(), 0);
+        keepAllEvenings(due);
+    }
+
+    /** Each of 60 EVENINGS of a kept LAND can be undone, though others were played meanwhile. */
+    private static void keepAllEvenings(Due due) {
+        String land = "g9999999999 b09 d91 t54";
+        MovingHills x = Due.of(land);
+        MovingHills same = Due.of(land);
+        for (int e = 0; e < 60; e++) {
+            x.evening(e * 7 % 27);
+            same.evening(e * 7 % 27);
+        }
+        same.keep(1);
+        x.keep(1);
+        x.undo(0);
+        for (int e = 0; e < 60; e++) x.evening(13);
+        x.on(1);
+        for (int n = 59; n >= 0; n--) {
+            due.is("undo(" + n + ")", x.undo(n), same.undo(n));
+            due.is("undo(" + n + "), digest()", x.digest(), same.digest());
+        }
     }
 
     private static void keepRefused(Due due) {

@@ -101,7 +101,12 @@ final class LandsSentences {
         due.is("count(8)", x.count(8), 3);
         x.land(0);
         due.is("count(8) behind land()", x.count(8), 0);
+        due.is("digest() behind land()", x.digest(), Due.of("g3412 b01 d12").digest());
         for (int k = 0; k < 3; k++) due.finds("on(" + k + ")", x, x.on(k), Due.NOTHING);
+        x.evening(1);
+        due.is("kept anew", x.keep(1), 1);
+        due.is("count(8) then", x.count(8), 1);
+        due.finds("on(0) then", x, x.on(0), Due.NOTHING);
     }
 
     private static void howManySpots(Due due) {

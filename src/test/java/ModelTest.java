@@ -9,13 +9,17 @@ import java.util.Random;
 
 /** Runs of calls by fixed seeds: each answer of the class has to be the Model's. */
 public final class ModelTest {
-    private static final int RUNS = 700;
-    private static final int CALLS = 120;
+    private static final int RUNS = 1000;
+    /** What later calls answer is free. */
+    private static final int CALLS = 512;
+    /** What one step of a run takes at most, and its end. */
+    private static final int STEP = 80;
     private static final int[] EDGES = {-1, 0, 1, 2, 3, 4, 5, 6, 7, 8, 9, 10, 27, 40, 41, 60, 61, 80, 81, 99, 100,
         101, 255, 1000, 1023, Integer.MAX_VALUE, Integer.MAX_VALUE - 1, Integer.MIN_VALUE, Integer.MIN_VALUE + 1, -2};
 
     private static int wrong = 0;
     private static long checks = 0;
+    private static int made = 0;
 
     public static void main(String[] args) throws Exception {
         List<Method> calls = new ArrayList<>();
@@ -33,18 +37,20 @@ public final class ModelTest {
         MovingHills x = new MovingHills();
         Model model = new Model();
         List<String> said = new ArrayList<>();
+        made = 0;
         // Some runs stay without SPOTS for a while, and some are wilder than others.
         boolean settled = random.nextInt(8) != 0;
         int wild = random.nextInt(3) == 0 ? 3 : 25;
         if (settled) settle(random, x, model, said);
-        for (int c = 0; c < CALLS && wrong == 0; c++) {
+        while (made + STEP <= CALLS && wrong == 0) {
             if (random.nextInt(60) == 0) settle(random, x, model, said);
             if (random.nextInt(12) == 0) layHeights(random, x, model, said);
             Method m = calls.get(random.nextInt(calls.size()));
             if (isDear(m) && random.nextInt(6) != 0) continue;
-            call(x, model, m, arguments(random, m, x, wild), said);
+            call(x, model, m, arguments(random, m, model, wild), said);
             compare(x, model, said);
         }
+        for (int f = 1; f <= 5; f++) due("findings()", x.findings(f), model.findings(f), said);
     }
 
     private static boolean isDear(Method m) {
@@ -55,11 +61,11 @@ public final class ModelTest {
         due("digest()", x.digest(), model.digest(), said);
         due("asked()", x.asked(), model.asked(), said);
         due("finding()", x.finding(), model.finding(), said);
-        for (int f = 1; f <= 5; f++) due("findings()", x.findings(f), model.findings(f), said);
     }
 
     private static void due(String what, long got, long want, List<String> said) {
         checks++;
+        made++;
         if (got == want || wrong > 0) return;
         wrong++;
         System.out.println("behind " + String.join("; ", said));
@@ -91,6 +97,7 @@ public final class ModelTest {
             x.put(t, i, land.charAt(i));
             model.put(t, i, land.charAt(i));
         }
+        made += 1 + land.length();
         due("fault(" + t + ")", x.fault(t), model.fault(t), said);
         due("land(" + t + ")", x.land(t), model.land(t), said);
     }
@@ -144,22 +151,23 @@ public final class ModelTest {
     private static void change(MovingHills x, Model model, int r, int i, int by) {
         x.at(r, i);
         model.at(r, i);
-        x.lay(r, i, x.asked() + by);
+        x.lay(r, i, model.asked() + by);
         model.lay(r, i, model.asked() + by);
+        made += 2;
     }
 
-    private static Object[] arguments(Random random, Method m, MovingHills x, int wild) {
+    private static Object[] arguments(Random random, Method m, Model model, int wild) {
         Object[] all = new Object[m.getParameterCount()];
         for (int i = 0; i < all.length; i++) {
-            all[i] = random.nextInt(wild) == 0 ? EDGES[random.nextInt(EDGES.length)] : likely(random, m.getName(), i, x);
+            all[i] = random.nextInt(wild) == 0 ? EDGES[random.nextInt(EDGES.length)] : likely(random, m.getName(), i, model);
         }
         return all;
     }
 
-    private static int likely(Random random, String call, int i, MovingHills x) {
-        int spots = Math.max(1, x.count(0));
-        int programs = Math.max(1, x.count(3));
-        int bands = Math.max(1, x.count(1));
+    private static int likely(Random random, String call, int i, Model model) {
+        int spots = Math.max(1, model.count(0));
+        int programs = Math.max(1, model.count(3));
+        int bands = Math.max(1, model.count(1));
         switch (call + i) {
             case "evening0": case "behind0": case "rest0": case "round0": return random.nextInt(programs);
             case "behind1": return random.nextInt(61);
@@ -171,7 +179,7 @@ public final class ModelTest {
             case "mark1": return 1 + random.nextInt(5);
             case "frost0": return random.nextInt(1 << spots) & random.nextInt(1 << spots);
             case "flat0": return 1 << random.nextInt(spots) | (random.nextBoolean() ? 1 << random.nextInt(spots) : 0);
-            case "undo0": return Math.max(0, x.count(2) - random.nextInt(4));
+            case "undo0": return Math.max(0, model.count(2) - random.nextInt(4));
             case "raise1": return random.nextInt(16);
             case "raise2": return random.nextInt(4);
             case "rivals3": return random.nextInt(7);

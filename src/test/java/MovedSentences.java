@@ -42,6 +42,8 @@ final class MovedSentences {
         asks(due, "g030 b01 b01", 0, 2, 1, 1, 2, 0);
         asks(due, "g030 b01 b01", 0, 2, 5, 1, 1, 1);
         asks(due, "g030 b01 b01", 0, 1, 4, 2, 1, 0);
+        asks(due, "g1234567890 b91", 0, 1, 1, 1, 2, 3, 4, 5, 6, 7, 8, 8, 1);
+        asks(due, "g1234567890 b91", 0, 0, Due.NONE, 1, 2, 3, 4, 5, 6, 7, 8, 8, 2);
     }
 
     private static void playedFirst(Due due) {
@@ -146,6 +148,7 @@ final class MovedSentences {
         asks(due, "g020 b01", 1, 1, 1001, 2, 0, 0);
         asks(due, "g020 b01", 1, 2, 1002, 1, 0, 1);
         asks(due, "g020 b01", 1, 1, 2002, 0, 0, 2);
+        asks(due, "g1234567890 b91", 1, 1, 1001, 1, 2, 3, 4, 5, 6, 7, 8, 7, 2);
     }
 
     private static void twiceFirst(Due due) {

@@ -50,6 +50,7 @@ final class PlansSentences {
         flat(due, "g0000000000", 1023, 0);
         flat(due, "g1000000000 b91 b11", 1 + 4 + 512, 1, 3);
         flat(due, "g0100000010 b01 b91", 2 + 256, 2, 4);
+        flat(due, "g030 b01 b01 b01", 1 + 2, 3, 26);
         // One EVENING of much BREATH is ahead of two of less.
         flat(due, "g0200 d09 b01", 2, 9, 1);
         flat(due, "g040 d01 b02 b23", 2, 6, 17);
@@ -141,10 +142,21 @@ final class PlansSentences {
         raise(due, "g09 b09 b01", 0, 1, 1, 3);
         raise(due, "g09 b09 b01", 0, 2, 2, 3, 3);
         raise(due, "g09 b09 b01", 0, 2, 10, 4);
+        raise(due, "g303 b11", 1, 2, 1, 1);
+        raise(due, "g303 b11", 1, 4, 2, 1, 1);
+        raise(due, "g303 b11", 1, 6, 3, 1, 1, 1);
+        raise(due, "g40 t11", 1, 2, 1, 1);
+        raise(due, "g040 t01", 2, 2, 1, 2);
+        raise(due, "g030 b01 b01 b01", 2, 3, 3, 26);
         MovingHills heap = AsideSentences.heap();
         due.is("90 high", heap.raise(0, 90, 3, 0), 0);
         due.is("91 high", heap.raise(0, 91, 3, 0), Due.NONE);
         due.is("99 high", heap.raise(0, 99, 3, 0), Due.NONE);
+        MovingHills both = Due.of("g19 b01");
+        due.is("flat(1, 1) ahead of it", both.flat(1, 1), Due.NONE);
+        due.is("raise(0, 2, 1, 0) behind flat()", both.raise(0, 2, 1, 0), 1);
+        due.is("flat(1, 1) behind it", both.flat(1, 1), Due.NONE);
+        due.is("raise(0, 1, 0, 0) behind flat()", both.raise(0, 1, 0, 0), 0);
         MovingHills full = Due.evenings("g19 b01", 60);
         due.is("behind 60 EVENINGS", full.raise(0, 4, 3, 0), 3);
     }
@@ -209,6 +221,9 @@ final class PlansSentences {
         keeps(due, "g030 b05", 0, 5, 2);
         keeps(due, "g0900 b05 d39", 1, 0, 0);
         keeps(due, "g09 b01 b15", 1, 6, 4);
+        // The inch is on SPOT 1 behind one EVENING; it would come to SPOT 0 by a second one.
+        keeps(due, "g001 b09", 0, 9, 1);
+        keeps(due, "g0100 b09", 3, 9, 1);
         keeps(due, "g000 b09 b09 b09", 1, 27, 13);
         MovingHills heap = AsideSentences.heap();
         due.tells("a heap", heap, heap.keeps(0), 27, 13);
@@ -311,6 +326,7 @@ final class PlansSentences {
         due.tells("alike: silence", x, x.rivals(0, 1, 3, 1), 0, 0);
         due.tells("a MARCH", x, x.rivals(0, 1, 0, 1), 1, 1);
         due.tells("a LULLABY", x, x.rivals(0, 1, 2, 1), 1, 2);
+        due.tells("n is 0, behind others", x, x.rivals(0, 1, 2, 0), 0, 0);
         MovingHills y = Due.of("g0010 b31 b21");
         due.tells("alike ones: 0 ahead of 1 and 2", y, y.rivals(0, 1, 0, 2), 0, 0);
     }

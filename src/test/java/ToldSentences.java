@@ -349,6 +349,9 @@ final class ToldSentences {
         x.at(0, -1);
         due.is("BEYOND", x.findings(2), 4);
         due.is("no other one", x.findings(1), 3);
+        MovingHills often = new MovingHills();
+        for (int call = 0; call < 511; call++) often.tear(5);
+        due.is("the 512th call", often.findings(1), 511);
     }
 
     private static void findingsBad(Due due) {
