@@ -121,7 +121,7 @@ final class AsideSentences {
         due.tells("rest(0)", x, x.rest(0), 0, 0);
     }
 
-    /** No PROGRAM was found that goes on for longer than these 98. */
+    /** No longer way to rest than these 98 is known: NOTES.md says why NONE is not to be seen. */
     private static void restOfHeaps(Due due) {
         MovingHills x = heap();
         due.tells("90 inches by 9 SPOTS, one by one", x, x.rest(1), 98, 90);

@@ -4,7 +4,9 @@ import java.lang.reflect.Method;
 import java.lang.reflect.Modifier;
 import java.nio.file.Files;
 import java.nio.file.Path;
+import java.util.HashMap;
 import java.util.HashSet;
+import java.util.Map;
 import java.util.Set;
 import java.util.TreeSet;
 import java.util.regex.Matcher;
@@ -24,6 +26,7 @@ public final class LanguageTest {
         words(source);
         loops(source);
         lengths(source);
+        depths(source);
         due.end("LanguageTest");
     }
 
@@ -132,5 +135,30 @@ public final class LanguageTest {
                 from = -1;
             }
         }
+    }
+
+    /** How deep calls go, by names alone: two methods of one name count as one that calls what either calls. */
+    private static void depths(String source) {
+        Map<String, Set<String>> calls = new HashMap<>();
+        Matcher head = Pattern.compile("(?m)^( {4}| {8})(\\w[\\w\\[\\] ]*? )?(\\w+)\\([^()]*\\) \\{$").matcher(source);
+        while (head.find()) {
+            String body = source.substring(head.end(), source.indexOf("\n" + head.group(1) + "}", head.start()));
+            Set<String> called = calls.computeIfAbsent(head.group(3), name -> new HashSet<>());
+            Matcher call = Pattern.compile("(\\w+)\\(").matcher(body);
+            while (call.find()) called.add(call.group(1));
+        }
+        due.holds("methods are found", calls.size() > 46);
+        for (String name : calls.keySet()) {
+            due.holds("calls from " + name + " go at most eight deep", depth(name, calls, new HashSet<>()) <= 8);
+        }
+    }
+
+    /** A call back to a name that is open already is recursion, which goes by another rule. */
+    private static int depth(String name, Map<String, Set<String>> calls, Set<String> open) {
+        if (!calls.containsKey(name) || !open.add(name)) return 0;
+        int deepest = 0;
+        for (String called : calls.get(name)) deepest = Math.max(deepest, depth(called, calls, open));
+        open.remove(name);
+        return 1 + deepest;
     }
 }
